@@ -85,9 +85,9 @@ public final class PondReader {
 
     private final byte[] tape = new byte[TAPE_BYTES];
     private int tapeLength;
-    private final TextReader reader = new TextReader(tape);
-    private final Water water = new Water(new Pond());
     private Pond spare = new Pond();
+    private final TextReader reader = new TextReader(tape, spare);
+    private final Water water = new Water(new Pond());
     private final Notes notes = new Notes();
     private final Ripples ripples = new Ripples(water);
     private final Skating skating = new Skating(water, ripples);
@@ -236,7 +236,7 @@ public final class PondReader {
             return ERROR;
         }
         ripples.freshenSums();
-        return skating.lawAtStart(skater, way);
+        return skating.drive(water.pond.skaterCells.orZero(skater), way, 0);
     }
 
     public int where(int skater, int n) {
@@ -252,7 +252,7 @@ public final class PondReader {
             return NONE;
         }
         ripples.freshenSums();
-        return skating.arrival(skater, cell, LAST_RUN);
+        return skating.arrival(skater, cell);
     }
 
     public int first(int cell) {
@@ -274,7 +274,7 @@ public final class PondReader {
         if (answer < 0) {
             return answer;
         }
-        return what == 0 ? skating.extraStep : skating.extraCell;
+        return what == 0 ? skating.lieStep : skating.lieCell;
     }
 
     public int fall(int kind, int cell, int step) {
@@ -323,7 +323,7 @@ public final class PondReader {
             return NONE;
         }
         ripples.freshenWays();
-        return guesses.walkTales(k) > k ? guesses.asked.part(0, what) : NOT_SO;
+        return guesses.walkTales(k) > k ? guesses.taleAsked.part(0, what) : NOT_SO;
     }
 
     public int likeliest(int what) {
@@ -331,7 +331,7 @@ public final class PondReader {
             return NONE;
         }
         ripples.freshenWays();
-        return guesses.walkTales(NONE) > 0 ? guesses.likeliest.part(0, what) : NOT_SO;
+        return guesses.walkTales(NONE) > 0 ? guesses.taleLikeliest.part(0, what) : NOT_SO;
     }
 
     public int fits() {
@@ -620,82 +620,57 @@ public final class PondReader {
             names[KNOT_STEP] = step;
             int top = 0;
             for (int i = 0; i < knots && i < MOST_KNOTS; i++) {
-                top = worked(codes[i], numbers[i], top);
-                if (top < 1) {
+                int code = codes[i];
+                int sides = code <= KNOT_STEP ? 0 : code == KNOT_NOT ? 1 : 2;
+                int at = top - sides;
+                if (at < 0 || at >= MOST_KNOTS || top > MOST_KNOTS || code < 0) {
                     return ERROR;
                 }
+                long value;
+                if (sides == 0) {
+                    value = code == KNOT_NUMBER ? numbers[i] : names[code];
+                } else {
+                    value = sides == 1 ? (stack[at] == 0 ? 1 : 0) : joined(code, stack[at], stack[at + 1]);
+                }
+                if (value > LIMIT || value < -LIMIT) {
+                    return ERROR;
+                }
+                stack[at] = value;
+                top = at + 1;
             }
             return top == 1 ? stack[0] : ERROR;
-        }
-
-        /** How high the stack is after one knot; 0 with an error. */
-        private int worked(int code, int number, int top) {
-            if (code <= KNOT_STEP) {
-                if (top < 0 || top >= MOST_KNOTS || code < 0) {
-                    return 0;
-                }
-                stack[top] = code == KNOT_NUMBER ? number : names[code];
-                return top + 1;
-            }
-            if (code == KNOT_NOT) {
-                if (top < 1 || top > MOST_KNOTS) {
-                    return 0;
-                }
-                stack[top - 1] = truth(stack[top - 1] == 0);
-                return top;
-            }
-            if (top < 2 || top > MOST_KNOTS) {
-                return 0;
-            }
-            long value = joined(code, stack[top - 2], stack[top - 1]);
-            if (value > LIMIT || value < -LIMIT) {
-                return 0;
-            }
-            stack[top - 2] = value;
-            return top - 1;
         }
 
         private static long joined(int code, long a, long b) {
             switch (code) {
                 case KNOT_OR:
-                    return truth(a != 0 || b != 0);
+                    return a != 0 || b != 0 ? 1 : 0;
                 case KNOT_AND:
-                    return truth(a != 0 && b != 0);
+                    return a != 0 && b != 0 ? 1 : 0;
                 case KNOT_LESS:
-                    return truth(a < b);
+                    return a < b ? 1 : 0;
                 case KNOT_LESS_EQUAL:
-                    return truth(a <= b);
+                    return a <= b ? 1 : 0;
                 case KNOT_EQUAL:
-                    return truth(a == b);
+                    return a == b ? 1 : 0;
                 case KNOT_UNEQUAL:
-                    return truth(a != b);
+                    return a != b ? 1 : 0;
                 case KNOT_MORE_EQUAL:
-                    return truth(a >= b);
+                    return a >= b ? 1 : 0;
                 case KNOT_MORE:
-                    return truth(a > b);
+                    return a > b ? 1 : 0;
                 case KNOT_PLUS:
                     return a + b;
                 case KNOT_MINUS:
                     return a - b;
                 case KNOT_TIMES:
-                    return product(a, b);
+                    // Two values within the limit can have a product beyond a long: a division tells beforehand.
+                    return b == 0 ? 0 : Math.abs(a) > LIMIT / Math.abs(b) ? ERROR : a * b;
                 case KNOT_OVER:
                     return b == 0 ? ERROR : a / b;
                 default:
                     return ERROR;
             }
-        }
-
-        // Two values within the limit can have a product beyond a long, so it is looked at by a division first.
-        private static long product(long a, long b) {
-            if (a == 0 || b == 0) {
-                return 0;
-            }
-            return Math.abs(a) > LIMIT / Math.abs(b) ? ERROR : a * b;
-        }
-
-        private static long truth(boolean so) {
-            return so ? 1 : 0;
         }
     }
 
@@ -763,7 +738,7 @@ public final class PondReader {
         }
 
         boolean isWet(int cell) {
-            return isCell(cell) && (land >>> cell & 1) == 0;
+            return cell >= 0 && cell < wide * high && (land >>> cell & 1) == 0;
         }
 
         Row risesOf(int kind) {
@@ -784,8 +759,8 @@ public final class PondReader {
         }
     }
 
-    /** The tokens of the tape's first bytes, one at a time. */
-    private static final class Scanner {
+    /** The tokens of the tape's first bytes, and the one that is looked at. */
+    private static final class Tokens {
         private static final int END = 0;
         private static final int NUMBER = 1;
         private static final int NAME = 2;
@@ -795,125 +770,143 @@ public final class PondReader {
         private static final int HUGE = 1000000;
 
         private final byte[] bytes;
+        private final int[] types = new int[TAPE_BYTES];
+        private final int[] places = new int[TAPE_BYTES];
+        private final int[] values = new int[TAPE_BYTES];
+        private int size;
         private int length;
         private int next;
+        private int at;
         private int type;
         private int place;
+        /** A number, a word's letters or a sign's code. */
         private int value;
-        private Word word;
 
-        Scanner(byte[] bytes) {
+        Tokens(byte[] bytes) {
             this.bytes = bytes;
         }
 
-        void start(int n) {
+        void scan(int n) {
             length = Math.max(0, Math.min(n, bytes.length));
             next = 0;
+            size = 0;
+            at = -1;
+            // Each token takes at least one byte.
+            for (int left = length; left > 0 && next < length; left--) {
+                int sign = byteAt(next);
+                if (isLetter(sign)) {
+                    scanWord();
+                } else if (isDigit(sign)) {
+                    scanNumber();
+                } else {
+                    scanSign(sign);
+                }
+            }
             advance();
         }
 
+        // Behind the last token the end stays.
         void advance() {
-            while (next < length && isBlank(byteAt(next))) {
-                next++;
+            at = Math.min(at + 1, size);
+            boolean more = at >= 0 && at < size && at < types.length;
+            type = more ? types[at] : END;
+            place = more ? places[at] : length;
+            value = more ? values[at] : 0;
+        }
+
+        boolean isSign(int code) {
+            return type == SIGN && value == code;
+        }
+
+        boolean isWord(Word word) {
+            return type == WORD && value == word.letters;
+        }
+
+        private int byteAt(int index) {
+            return index >= 0 && index < length && index < bytes.length ? bytes[index] : 0;
+        }
+
+        private void put(int newType, int newPlace, int newValue) {
+            if (size >= 0 && size < types.length) {
+                types[size] = newType;
+                places[size] = newPlace;
+                values[size] = newValue;
+                size++;
             }
-            place = next;
-            word = null;
-            value = 0;
-            int sign = byteAt(next);
-            if (next >= length) {
-                type = END;
-            } else if (isLetter(sign)) {
-                readWord();
-            } else if (isDigit(sign)) {
-                readNumber();
-            } else {
-                readSign(sign);
-            }
         }
 
-        boolean isSign(int sign) {
-            return type == SIGN && value == sign;
-        }
-
-        private int byteAt(int at) {
-            return at >= 0 && at < length && at < bytes.length ? bytes[at] : 0;
-        }
-
-        private void readWord() {
+        private void scanWord() {
+            int start = next;
             int letters = 0;
-            int count = 0;
             while (next < length && isLetter(byteAt(next))) {
-                if (count < LETTERS) {
+                if (next - start < LETTERS) {
                     letters = letters << LETTER_BITS | byteAt(next) - 'a' + 1;
                 }
-                count++;
                 next++;
             }
-            for (int i = count; i < LETTERS; i++) {
+            for (int i = next - start; i < LETTERS; i++) {
                 letters = letters << LETTER_BITS;
             }
-            value = letters;
-            word = count > LETTERS ? null : Word.of(letters);
-            type = count > LETTERS ? BAD : word == null ? NAME : WORD;
+            int known = Word.of(letters) == null ? NAME : WORD;
+            put(next - start > LETTERS ? BAD : known, start, letters);
         }
 
-        private void readNumber() {
+        private void scanNumber() {
+            int start = next;
+            int number = 0;
             while (next < length && isDigit(byteAt(next))) {
-                value = Math.min(HUGE, value * 10 + byteAt(next) - '0');
+                number = Math.min(HUGE, number * 10 + byteAt(next) - '0');
                 next++;
             }
-            type = NUMBER;
+            put(NUMBER, start, number);
         }
 
-        private void readSign(int sign) {
+        private void scanSign(int sign) {
+            int start = next;
             next++;
-            type = SIGN;
+            if (sign == 10 || sign == 32) {
+                return;
+            }
+            int code = codeOf(sign);
+            int behind = byteAt(next);
+            if (sign == '<' && behind == '=') {
+                code = KNOT_LESS_EQUAL;
+                next++;
+            } else if (sign == '<' && behind == '>') {
+                code = KNOT_UNEQUAL;
+                next++;
+            } else if (sign == '>' && behind == '=') {
+                code = KNOT_MORE_EQUAL;
+                next++;
+            }
+            put(code == NO_KNOT ? BAD : SIGN, start, code);
+        }
+
+        private static int codeOf(int sign) {
             switch (sign) {
                 case ';':
-                    value = SIGN_LINE_END;
-                    break;
+                    return SIGN_LINE_END;
                 case '(':
-                    value = SIGN_OPEN;
-                    break;
+                    return SIGN_OPEN;
                 case ')':
-                    value = SIGN_CLOSE;
-                    break;
+                    return SIGN_CLOSE;
                 case '+':
-                    value = KNOT_PLUS;
-                    break;
+                    return KNOT_PLUS;
                 case '-':
-                    value = KNOT_MINUS;
-                    break;
+                    return KNOT_MINUS;
                 case '*':
-                    value = KNOT_TIMES;
-                    break;
+                    return KNOT_TIMES;
                 case '/':
-                    value = KNOT_OVER;
-                    break;
+                    return KNOT_OVER;
                 case '=':
-                    value = KNOT_EQUAL;
-                    break;
+                    return KNOT_EQUAL;
                 case '<':
-                    value = took('=') ? KNOT_LESS_EQUAL : took('>') ? KNOT_UNEQUAL : KNOT_LESS;
-                    break;
+                    return KNOT_LESS;
                 case '>':
-                    value = took('=') ? KNOT_MORE_EQUAL : KNOT_MORE;
-                    break;
+                    return KNOT_MORE;
                 default:
-                    type = BAD;
+                    return NO_KNOT;
             }
-        }
-
-        private boolean took(int sign) {
-            boolean there = next < length && byteAt(next) == sign;
-            if (there) {
-                next++;
-            }
-            return there;
-        }
-
-        private static boolean isBlank(int sign) {
-            return sign == 10 || sign == 32;
         }
 
         private static boolean isLetter(int sign) {
@@ -930,7 +923,7 @@ public final class PondReader {
      * at, so the first one found is the first along the text.
      */
     private static final class TextReader {
-        private final Scanner scanner;
+        private final Tokens tokens;
         private Pond pond;
         private int faultNumber;
         private int faultPlace = NONE;
@@ -940,14 +933,16 @@ public final class PondReader {
         private boolean thickTold;
         private boolean sentTold;
         private boolean cellsTold;
-        private final int[] waiting = new int[MOST_KNOTS + MOST_OPEN + 1];
+        private final int[] waiting = new int[MOST_KNOTS + MOST_OPEN];
+        private final int[] waitingRanks = new int[MOST_KNOTS + MOST_OPEN];
         private int waitingSize;
         private int open;
         private int knotsSeen;
         private boolean operandStands;
 
-        TextReader(byte[] tape) {
-            scanner = new Scanner(tape);
+        TextReader(byte[] tape, Pond pond) {
+            this.tokens = new Tokens(tape);
+            this.pond = pond;
         }
 
         /** Whether the tape's first n bytes are a text without a fault; only then is the pond as told. */
@@ -962,8 +957,8 @@ public final class PondReader {
             thickTold = false;
             sentTold = false;
             cellsTold = false;
-            scanner.start(n);
-            for (int left = n; left > 0 && scanner.type != Scanner.END && faultNumber == 0; left--) {
+            tokens.scan(n);
+            for (int left = n; left > 0 && tokens.type != Tokens.END && faultNumber == 0; left--) {
                 if (readLine() && lineEnds()) {
                     lines++;
                 }
@@ -971,31 +966,26 @@ public final class PondReader {
             return faultNumber == 0;
         }
 
-        private boolean refuse(int number, int place) {
-            if (faultNumber == 0) {
-                faultNumber = number;
-                faultPlace = place;
-            }
+        private boolean refuse(int number) {
+            faultNumber = number;
+            faultPlace = tokens.place;
             return false;
         }
 
-        private boolean refuseHere(int number) {
-            return refuse(number, scanner.place);
-        }
-
         private boolean lineEnds() {
-            if (!scanner.isSign(SIGN_LINE_END)) {
-                return refuseHere(CANT_STAND);
+            if (!tokens.isSign(SIGN_LINE_END)) {
+                return refuse(CANT_STAND);
             }
-            scanner.advance();
+            tokens.advance();
             return true;
         }
 
         private boolean readLine() {
-            if (scanner.word == null) {
-                return refuseHere(CANT_STAND);
+            Word word = tokens.type == Tokens.WORD ? Word.of(tokens.value) : null;
+            if (word == null) {
+                return refuse(CANT_STAND);
             }
-            switch (scanner.word) {
+            switch (word) {
                 case POND:
                     return readPond();
                 case LAND:
@@ -1003,7 +993,7 @@ public final class PondReader {
                 case REED:
                     return readReed();
                 case SHORE:
-                    return readShore();
+                    return beginCells(pond.shores.isFull()) && readShoreCell(pond.shores);
                 case KIND:
                     return readKind();
                 case CORK:
@@ -1023,36 +1013,37 @@ public final class PondReader {
                 case MAY:
                     return readMay();
                 default:
-                    return refuseHere(CANT_STAND);
+                    return refuse(CANT_STAND);
             }
         }
 
         /** The number that stands here; NONE with a fault. */
         private int readNumber(int least, int greatest) {
-            if (scanner.type != Scanner.NUMBER) {
-                refuseHere(CANT_STAND);
+            if (tokens.type != Tokens.NUMBER) {
+                refuse(CANT_STAND);
                 return NONE;
             }
-            int value = scanner.value;
+            int value = tokens.value;
             if (value < least || value > greatest) {
-                refuseHere(TOO_MUCH);
+                refuse(TOO_MUCH);
                 return NONE;
             }
-            scanner.advance();
+            tokens.advance();
             return value;
         }
 
         /** The cell that stands here, which may be none of the forbidden ones (bits); NONE with a fault. */
         private int readCell(long forbidden) {
             int x = readNumber(0, pond.wide - 1);
-            int place = scanner.place;
+            int place = tokens.place;
             int y = x < 0 ? NONE : readNumber(0, pond.high - 1);
             if (y < 0) {
                 return NONE;
             }
             int cell = y * pond.wide + x;
             if ((forbidden >>> cell & 1) != 0) {
-                refuse(WRONG_CELL, place);
+                faultNumber = WRONG_CELL;
+                faultPlace = place;
                 return NONE;
             }
             return cell;
@@ -1060,46 +1051,46 @@ public final class PondReader {
 
         /** Takes the name that stands here, if it is new among these. */
         private boolean readNewName(Row names) {
-            if (scanner.type != Scanner.NAME) {
-                return refuseHere(CANT_STAND);
+            if (tokens.type != Tokens.NAME) {
+                return refuse(CANT_STAND);
             }
-            if (names.indexOf(scanner.value) >= 0) {
-                return refuseHere(TOLD_ALREADY);
+            if (names.indexOf(tokens.value) >= 0) {
+                return refuse(TOLD_ALREADY);
             }
-            names.add(scanner.value);
-            scanner.advance();
+            names.add(tokens.value);
+            tokens.advance();
             return true;
         }
 
         /** Goes behind the word of a line that tells of cells, if one more such line may come. */
         private boolean beginCells(boolean full) {
             if (full) {
-                return refuseHere(TOO_MUCH);
+                return refuse(TOO_MUCH);
             }
             cellsTold = true;
-            scanner.advance();
+            tokens.advance();
             return true;
         }
 
         /** The number behind the word of a line that may come once; NONE with a fault. */
         private int readOnce(boolean told, int greatest) {
             if (told) {
-                refuseHere(TOLD_ALREADY);
+                refuse(TOLD_ALREADY);
                 return NONE;
             }
-            scanner.advance();
+            tokens.advance();
             return readNumber(0, greatest);
         }
 
         private boolean readPond() {
             if (pondTold) {
-                return refuseHere(TOLD_ALREADY);
+                return refuse(TOLD_ALREADY);
             }
             if (cellsTold) {
-                return refuseHere(NOT_AHEAD);
+                return refuse(NOT_AHEAD);
             }
             pondTold = true;
-            scanner.advance();
+            tokens.advance();
             int wide = readNumber(1, MOST_WIDE);
             int high = wide < 0 ? NONE : readNumber(1, MOST_HIGH);
             if (high < 0) {
@@ -1134,10 +1125,6 @@ public final class PondReader {
             return true;
         }
 
-        private boolean readShore() {
-            return beginCells(pond.shores.isFull()) && readShoreCell(pond.shores);
-        }
-
         private boolean readShoreCell(Row shores) {
             int cell = readCell(pond.land | shores.cellBits());
             if (cell < 0) {
@@ -1149,16 +1136,16 @@ public final class PondReader {
 
         private boolean readKind() {
             if (pond.kinds.isFull()) {
-                return refuseHere(TOO_MUCH);
+                return refuse(TOO_MUCH);
             }
-            scanner.advance();
+            tokens.advance();
             Row rises = pond.risesOf(pond.kinds.size);
             if (!readNewName(pond.kinds) || !readRises(rises)) {
                 return false;
             }
             int odds = 1;
-            if (scanner.word == Word.ODDS) {
-                scanner.advance();
+            if (tokens.isWord(Word.ODDS)) {
+                tokens.advance();
                 odds = readNumber(1, 99);
             }
             pond.odds.add(odds);
@@ -1167,15 +1154,15 @@ public final class PondReader {
 
         private boolean readRises(Row rises) {
             for (int i = 0; i <= MOST_RISES; i++) {
-                boolean below = scanner.isSign(KNOT_MINUS);
-                if (!below && scanner.type != Scanner.NUMBER) {
-                    return i > 0 || refuseHere(CANT_STAND);
+                boolean below = tokens.isSign(KNOT_MINUS);
+                if (!below && tokens.type != Tokens.NUMBER) {
+                    return i > 0 || refuse(CANT_STAND);
                 }
                 if (i == MOST_RISES) {
-                    return refuseHere(TOO_MUCH);
+                    return refuse(TOO_MUCH);
                 }
                 if (below) {
-                    scanner.advance();
+                    tokens.advance();
                 }
                 int rise = readNumber(0, 99);
                 if (rise < 0) {
@@ -1202,14 +1189,14 @@ public final class PondReader {
             if (!beginCells(pond.drops.isFull())) {
                 return false;
             }
-            if (scanner.type != Scanner.NAME) {
-                return refuseHere(CANT_STAND);
+            if (tokens.type != Tokens.NAME) {
+                return refuse(CANT_STAND);
             }
-            int kind = pond.kinds.indexOf(scanner.value);
+            int kind = pond.kinds.indexOf(tokens.value);
             if (kind < 0) {
-                return refuseHere(NOT_AHEAD);
+                return refuse(NOT_AHEAD);
             }
-            scanner.advance();
+            tokens.advance();
             int cell = readCell(pond.land);
             int step = cell < 0 ? NONE : readNumber(0, DROP_STEPS - 1);
             if (step < 0) {
@@ -1248,11 +1235,11 @@ public final class PondReader {
             if (!readNewName(pond.mays)) {
                 return false;
             }
-            for (int i = 0; i <= MOST_SHORES && scanner.word == Word.SHORE; i++) {
+            for (int i = 0; i <= MOST_SHORES && tokens.isWord(Word.SHORE); i++) {
                 if (shores.isFull()) {
-                    return refuseHere(TOO_MUCH);
+                    return refuse(TOO_MUCH);
                 }
-                scanner.advance();
+                tokens.advance();
                 if (!readShoreCell(shores)) {
                     return false;
                 }
@@ -1263,80 +1250,86 @@ public final class PondReader {
         /** Reads a law by a stack of what waits for its right side: no depth of calls grows with the text. */
         private boolean readLaw() {
             if (!pond.law.isEmpty()) {
-                return refuseHere(TOLD_ALREADY);
+                return refuse(TOLD_ALREADY);
             }
             waitingSize = 0;
             open = 0;
             knotsSeen = 0;
             operandStands = false;
-            scanner.advance();
+            tokens.advance();
             for (int left = TAPE_BYTES; left > 0 && !lawEnds(); left--) {
                 if (!(operandStands ? readBehindOperand() : readOperand())) {
                     return false;
                 }
-                scanner.advance();
+                tokens.advance();
             }
             release(RANK_OR);
             return true;
         }
 
         private boolean lawEnds() {
-            return operandStands && open == 0 && scanner.isSign(SIGN_LINE_END);
+            return operandStands && open == 0 && tokens.isSign(SIGN_LINE_END);
         }
 
         private boolean readOperand() {
-            if (scanner.type == Scanner.NUMBER) {
-                if (scanner.value > 9999) {
-                    return refuseHere(TOO_MUCH);
+            if (tokens.type == Tokens.NUMBER) {
+                if (tokens.value > 9999) {
+                    return refuse(TOO_MUCH);
                 }
                 return readLeaf(KNOT_NUMBER);
             }
-            if (scanner.isSign(SIGN_OPEN)) {
+            if (tokens.isSign(SIGN_OPEN)) {
                 if (open >= MOST_OPEN) {
-                    return refuseHere(TOO_MUCH);
+                    return refuse(TOO_MUCH);
                 }
                 open++;
-                return hold(SIGN_OPEN);
+                return hold(SIGN_OPEN, RANK_OPEN);
             }
-            int code = scanner.word == null ? NO_KNOT : scanner.word.code;
+            int code = wordCode();
             if (code >= KNOT_RISE && code <= KNOT_STEP) {
                 return readLeaf(code);
             }
             if (code == KNOT_NOT && topRank() <= RANK_NOT) {
-                return isRoomForKnot() && hold(code);
+                return isRoomForKnot() && hold(code, RANK_NOT);
             }
-            return refuseHere(CANT_STAND);
+            return refuse(CANT_STAND);
+        }
+
+        /** What the word that stands here is in a law; NO_KNOT if it is nothing there. */
+        private int wordCode() {
+            Word word = tokens.type == Tokens.WORD ? Word.of(tokens.value) : null;
+            return word == null ? NO_KNOT : word.code;
         }
 
         private boolean readLeaf(int code) {
             if (!isRoomForKnot()) {
                 return false;
             }
-            pond.law.add(code, scanner.value);
+            pond.law.add(code, tokens.value);
             operandStands = true;
             return true;
         }
 
         private boolean readBehindOperand() {
-            if (scanner.isSign(SIGN_CLOSE)) {
+            if (tokens.isSign(SIGN_CLOSE)) {
                 return readClose();
             }
-            int code = scanner.type == Scanner.SIGN ? scanner.value : scanner.word == null ? NO_KNOT : scanner.word.code;
+            int code = tokens.type == Tokens.SIGN ? tokens.value : wordCode();
             if (code < KNOT_OR || code > KNOT_OVER) {
-                return refuseHere(CANT_STAND);
+                return refuse(CANT_STAND);
             }
             int rank = rankOf(code);
             release(rank == RANK_COMPARISON ? RANK_COMPARISON + 1 : rank);
             if (rank == RANK_COMPARISON && topRank() == RANK_COMPARISON) {
-                return refuseHere(CANT_STAND);
+                return refuse(CANT_STAND);
             }
             operandStands = false;
-            return isRoomForKnot() && hold(code);
+            return isRoomForKnot() && hold(code, rank);
         }
 
         private boolean readClose() {
             if (open <= 0) {
-                return refuseHere(CANT_STAND);
+                return refuse(CANT_STAND);
             }
             release(RANK_OR);
             open--;
@@ -1346,49 +1339,48 @@ public final class PondReader {
 
         private boolean isRoomForKnot() {
             if (knotsSeen >= MOST_KNOTS) {
-                return refuseHere(TOO_MUCH);
+                return refuse(TOO_MUCH);
             }
             knotsSeen++;
             return true;
         }
 
-        private boolean hold(int code) {
+        private boolean hold(int code, int rank) {
             if (waitingSize < 0 || waitingSize >= waiting.length) {
-                return refuseHere(TOO_MUCH);
+                return refuse(TOO_MUCH);
             }
             waiting[waitingSize] = code;
+            waitingRanks[waitingSize] = rank;
             waitingSize++;
             return true;
         }
 
         /** Lets go what waits and binds at least so closely, down to the latest open bracket. */
         private void release(int rank) {
-            while (waitingSize > 0 && topRank() >= rank) {
+            while (waitingSize > 0 && waitingSize <= waiting.length && topRank() >= rank) {
                 waitingSize--;
                 pond.law.add(waiting[waitingSize], 0);
             }
         }
 
         private int topRank() {
-            return waitingSize > 0 && waitingSize <= waiting.length ? rankOf(waiting[waitingSize - 1]) : RANK_OPEN;
+            boolean any = waitingSize > 0 && waitingSize <= waitingRanks.length;
+            return any ? waitingRanks[waitingSize - 1] : RANK_OPEN;
         }
 
+        /** How closely what joins two sides binds. */
         private static int rankOf(int code) {
             switch (code) {
                 case KNOT_OR:
                     return RANK_OR;
                 case KNOT_AND:
                     return RANK_AND;
-                case KNOT_NOT:
-                    return RANK_NOT;
                 case KNOT_PLUS:
                 case KNOT_MINUS:
                     return RANK_SUM;
                 case KNOT_TIMES:
                 case KNOT_OVER:
                     return RANK_PRODUCT;
-                case SIGN_OPEN:
-                    return RANK_OPEN;
                 default:
                     return RANK_COMPARISON;
             }
@@ -1527,10 +1519,18 @@ public final class PondReader {
             }
             Drops drops = water.drops;
             for (int i = 0; i < drops.size; i++) {
-                Row rises = water.pond.risesOf(drops.kinds[i]);
-                for (int to = 0; to < MOST_CELLS; to++) {
-                    addDirect(rises, drops.cells[i], to, drops.steps[i]);
-                    addSentBack(rises, drops.cells[i], to, drops.steps[i]);
+                pour(drops.kinds[i], drops.cells[i], drops.steps[i], 1);
+            }
+        }
+
+        /** Adds so many times what a drop makes rise to the sums: -1 takes it out again. */
+        void pour(int kind, int from, int step, int times) {
+            Row rises = water.pond.risesOf(kind);
+            for (int to = 0; to < water.pond.cells(); to++) {
+                for (int k = 0; k < rises.size; k++) {
+                    int rise = rises.orZero(k) * times;
+                    addDirect(rise, from, to, step + k);
+                    addSentBack(rise, from, to, step + k);
                 }
             }
         }
@@ -1601,19 +1601,21 @@ public final class PondReader {
         }
 
         int farOf(int from, int to) {
-            return areCells(from, to) ? fars[from * MOST_CELLS + to] : NOT_SO;
+            boolean asked = from >= 0 && from < MOST_CELLS && to >= 0 && to < MOST_CELLS;
+            return asked ? fars[from * MOST_CELLS + to] : NOT_SO;
         }
 
         int weakOf(int from, int to) {
-            return areCells(from, to) ? weaks[from * MOST_CELLS + to] : NOT_SO;
-        }
-
-        private static boolean areCells(int from, int to) {
-            return from >= 0 && from < MOST_CELLS && to >= 0 && to < MOST_CELLS;
+            boolean asked = from >= 0 && from < MOST_CELLS && to >= 0 && to < MOST_CELLS;
+            return asked ? weaks[from * MOST_CELLS + to] : NOT_SO;
         }
 
         private int partOf(int rise, int from, int to) {
-            return rise * Math.max(0, 100 - weakOf(from, to)) / 100;
+            if (from < 0 || from >= MOST_CELLS || to < 0 || to >= MOST_CELLS) {
+                return 0;
+            }
+            int left = 100 - weaks[from * MOST_CELLS + to];
+            return left > 0 ? rise * left / 100 : 0;
         }
 
         private int sentPart(int rise, int from, int shore, int to) {
@@ -1627,20 +1629,20 @@ public final class PondReader {
             return there < 0 || back < 0 ? NOT_SO : there + back;
         }
 
-        private void addDirect(Row rises, int from, int to, int step) {
+        private void addDirect(int rise, int from, int to, int step) {
             int far = farOf(from, to);
-            for (int k = 0; far >= 0 && k < rises.size; k++) {
-                addSum(to, step + far + k, partOf(rises.orZero(k), from, to));
+            if (far >= 0) {
+                addSum(to, step + far, partOf(rise, from, to));
             }
         }
 
-        private void addSentBack(Row rises, int from, int to, int step) {
+        private void addSentBack(int rise, int from, int to, int step) {
             Row shores = water.pond.shores;
             for (int i = 0; i < shores.size; i++) {
                 int shore = shores.orZero(i);
                 int far = farBy(from, shore, to);
-                for (int k = 0; far >= 0 && k < rises.size; k++) {
-                    addSum(to, step + far + k, sentPart(rises.orZero(k), from, shore, to));
+                if (far >= 0) {
+                    addSum(to, step + far, sentPart(rise, from, shore, to));
                 }
             }
         }
@@ -1754,24 +1756,17 @@ public final class PondReader {
         }
     }
 
-    /** Where skaters go, perhaps with one more drop. */
+    /** Where skaters go. */
     private static final class Skating {
         private final Water water;
         private final Ripples ripples;
         private final int[] path = new int[LAST_RUN + 1];
-        private int extraKind = NONE;
-        private int extraCell;
-        private int extraStep;
+        private int lieStep;
+        private int lieCell;
 
         Skating(Water water, Ripples ripples) {
             this.water = water;
             this.ripples = ripples;
-        }
-
-        long lawAtStart(int skater, int way) {
-            int cell = water.pond.skaterCells.orZero(skater);
-            int there = ripples.nearOf(cell, way);
-            return there < 0 ? ERROR : lawWorth(cell, there, way, 0);
         }
 
         int cellAhead(int skater, int n) {
@@ -1779,9 +1774,13 @@ public final class PondReader {
             return n >= 0 && n < path.length ? path[n] : NONE;
         }
 
-        /** Ahead of which step up to the last a skater is first in a cell; NOT_SO: of none. */
-        int arrival(int skater, int cell, int last) {
-            follow(skater, last);
+        int arrival(int skater, int cell) {
+            follow(skater, LAST_RUN);
+            return arrivalOnPath(cell, LAST_RUN);
+        }
+
+        /** Ahead of which step up to the last the path is first in a cell; NOT_SO: of none. */
+        private int arrivalOnPath(int cell, int last) {
             for (int n = 0; n <= last && n < path.length; n++) {
                 if (path[n] == cell) {
                     return n;
@@ -1794,7 +1793,8 @@ public final class PondReader {
             int who = NOT_SO;
             int when = LAST_RUN + 1;
             for (int skater = 0; skater < water.pond.skaters.size; skater++) {
-                int n = arrival(skater, cell, LAST_RUN);
+                follow(skater, LAST_RUN);
+                int n = arrivalOnPath(cell, LAST_RUN);
                 if (n >= 0 && n < when) {
                     who = skater;
                     when = n;
@@ -1803,43 +1803,35 @@ public final class PondReader {
             return who;
         }
 
-        /** 0 if a lie is found (extraStep, extraCell); else what lie() answers. */
+        /** 0 if a lie is found (lieStep, lieCell); else what lie() answers. */
         int seekLie(int skater, int cell, int kind, int n) {
-            int reached = arrival(skater, cell, n);
+            follow(skater, n);
+            int reached = arrivalOnPath(cell, n);
             if (reached < 0) {
                 return NOT_THERE;
             }
-            int answer = NOT_SO;
-            extraKind = kind;
             // A drop in the step of the arrival or later comes too late to change it.
-            for (int step = 0; step <= LAST_LIE_DROP && step < reached && answer < 0; step++) {
-                answer = seekLieIn(step, cell, n);
-            }
-            extraKind = NONE;
-            return answer;
-        }
-
-        private int seekLieIn(int step, int cell, int n) {
-            extraStep = step;
-            for (int from = 0; from < water.pond.cells(); from++) {
-                extraCell = from;
-                if (water.pond.isWet(from) && staysAway(cell, n)) {
-                    return 0;
+            for (int step = 0; step <= LAST_LIE_DROP && step < reached; step++) {
+                for (int from = 0; from < water.pond.cells(); from++) {
+                    if (water.pond.isWet(from) && isLie(kind, from, step, cell, n)) {
+                        lieStep = step;
+                        lieCell = from;
+                        return 0;
+                    }
                 }
             }
             return NOT_SO;
         }
 
-        // Up to the extra drop's step the path is the one without it.
-        private boolean staysAway(int cell, int n) {
-            int here = extraStep >= 0 && extraStep < path.length ? path[extraStep] : cell;
-            for (int step = extraStep; step < n; step++) {
+        // Up to the drop's step the skater goes as it does without, so its path is taken up there.
+        private boolean isLie(int kind, int from, int dropStep, int cell, int n) {
+            ripples.pour(kind, from, dropStep, 1);
+            int here = dropStep >= 0 && dropStep < path.length ? path[dropStep] : cell;
+            for (int step = dropStep; step < n && here != cell; step++) {
                 here = next(here, step);
-                if (here == cell) {
-                    return false;
-                }
             }
-            return true;
+            ripples.pour(kind, from, dropStep, -1);
+            return here != cell;
         }
 
         private void follow(int skater, int last) {
@@ -1853,37 +1845,33 @@ public final class PondReader {
 
         private int next(int here, int step) {
             int best = here;
-            long most = drive(here, here, 0, step);
-            for (int way = 1; way < WAYS; way++) {
+            long most = 0;
+            for (int way = 0; way < WAYS; way++) {
                 int there = ripples.nearOf(here, way);
-                long worth = there < 0 ? most : drive(here, there, way, step);
-                if (worth > most) {
-                    best = there;
-                    most = worth;
+                if (there >= 0) {
+                    long drive = drive(here, way, step);
+                    long worth = drive == ERROR ? 0 : drive;
+                    if (way == 0 || worth > most) {
+                        best = there;
+                        most = worth;
+                    }
                 }
             }
             return best;
         }
 
-        private long drive(int here, int there, int way, int step) {
-            if (water.pond.law.isEmpty()) {
-                return riseAt(there, step);
+        /** The law's worth for a skater that looks that way, the rise without a law; ERROR also without water. */
+        long drive(int here, int way, int step) {
+            int there = ripples.nearOf(here, way);
+            if (there < 0) {
+                return ERROR;
             }
-            long worth = lawWorth(here, there, way, step);
-            return worth == ERROR ? 0 : worth;
-        }
-
-        private long lawWorth(int here, int there, int way, int step) {
-            int reeds = water.hasReeds(there) ? 1 : 0;
-            return water.pond.law.worth(riseAt(there, step), riseAt(here, step), reeds, way, step);
-        }
-
-        private int riseAt(int cell, int step) {
-            int rise = ripples.sumAt(cell, step);
-            if (extraKind == NONE || step < extraStep) {
+            int rise = ripples.sumAt(there, step);
+            if (water.pond.law.isEmpty()) {
                 return rise;
             }
-            return rise + ripples.alone(extraKind, extraCell, cell, step - extraStep, water.pond.shores);
+            int reeds = water.hasReeds(there) ? 1 : 0;
+            return water.pond.law.worth(rise, ripples.sumAt(here, step), reeds, way, step);
         }
     }
 
@@ -1896,8 +1884,8 @@ public final class PondReader {
         private final Water water;
         private final Ripples ripples;
         private final Notes notes;
-        private final Drops asked = new Drops(1);
-        private final Drops likeliest = new Drops(1);
+        private final Drops taleAsked = new Drops(1);
+        private final Drops taleLikeliest = new Drops(1);
         private final int[] shown = new int[APART_DROPS * SHOWN_STEPS];
         private final int[] tellers = new int[APART_DROPS * APART_DROPS];
         private final Drops compared = new Drops(APART_DROPS);
@@ -1916,15 +1904,15 @@ public final class PondReader {
             Row sights = notes.knownSights();
             int most = 0;
             int tales = 0;
-            asked.clear();
-            likeliest.clear();
+            taleAsked.clear();
+            taleLikeliest.clear();
             for (int kind = 0; kind < water.pond.kinds.size; kind++) {
                 int ahead = tales;
                 tales = walkCells(kind, tales, k, sights);
                 int odds = water.pond.odds.orZero(kind);
                 if (tales > ahead && odds > most) {
                     most = odds;
-                    likeliest.copyOf(compared);
+                    taleLikeliest.copyOf(compared);
                 }
             }
             return tales;
@@ -1943,7 +1931,7 @@ public final class PondReader {
                         compared.add(kind, cell, step);
                     }
                     if (tales == k) {
-                        asked.add(kind, cell, step);
+                        taleAsked.add(kind, cell, step);
                     }
                     tales++;
                 }
