@@ -21,10 +21,14 @@ public final class OracleTest {
     }
 
     public static void main(String[] args) {
-        int runs = args.length > 0 ? Integer.parseInt(args[0]) : 200;
+        int runs = args.length > 0 ? Integer.parseInt(args[0]) : 150;
         for (int seed = 0; seed < runs; seed++) {
             CHECK.about("run " + seed);
             new OracleTest(seed).run();
+        }
+        for (int seed = 0; seed < runs * 10; seed++) {
+            CHECK.about("first call " + seed);
+            new OracleTest(2000000 + seed).callFirst();
         }
         for (int seed = 0; seed < runs * 20; seed++) {
             CHECK.about("text " + seed);
@@ -45,6 +49,18 @@ public final class OracleTest {
         for (int i = 0; i < 3; i++) {
             tell(often(80) ? broken(text()) : text());
         }
+    }
+
+    /** Each call as the first one behind a text or a change, when nothing can be worked out yet. */
+    private void callFirst() {
+        tell(rightText());
+        for (int cell = up(wide * high); cell > 0 && often(70); cell--) {
+            CHECK.due("cut(" + cell + ")", reader.cut(cell), oracle.cut(cell));
+        }
+        int k = kind();
+        int c = cell();
+        CHECK.due("fall", reader.fall(k, c, 0), oracle.fall(k, c, 0));
+        call();
     }
 
     private void run() {

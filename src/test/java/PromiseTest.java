@@ -136,6 +136,13 @@ public final class PromiseTest {
         CHECK.due("reeds", x.count(12), 1);
         x.note(0, 0, 0);
         CHECK.due("all are known again", x.count(10), 1);
+        CHECK.due("text", Tape.tell(x, "loss 1;thick 1;sent 1;kind a 1 2 3 odds 7;may m shore 0 0;law 1;"), 6);
+        CHECK.due("text", Tape.tell(x, "kind a 4 odds 8;may m;loss 2;thick 2;sent 2;"), 5);
+        CHECK.due("rises of the last one", looked(x, 0, 0), 1);
+        CHECK.due("odds of the last one", looked(x, 0, 1), 8);
+        CHECK.due("no law", x.count(8), 0);
+        x.text(0);
+        CHECK.due("nothing is left of it", x.count(2) + x.count(7) + x.weak(0, 1), 10);
     }
 
     private static void fault(String text, int number, int place) {
@@ -305,6 +312,12 @@ public final class PromiseTest {
         fault(ones + "+1;", 2, ones.length() + 1);
         fault(ones + "++;", 1, ones.length() + 1);
         fault(ones.replace("law", "law not not"), 2, ones.length() + 7);
+        right("law " + "(".repeat(8) + "not ".repeat(63) + "1" + ")".repeat(8) + ";");
+        PondReader x = new PondReader();
+        for (String law : new String[] {ones + ";", "law (((1*", ones.replace("law", "law not") + ";", "law 1<2;"}) {
+            CHECK.due(law + " behind others", Tape.tell(x, law), law.endsWith(";") ? 1 : NONE);
+        }
+        CHECK.due("knots of the last one", x.count(8), 3);
     }
 
     private static void named() {
@@ -392,6 +405,7 @@ public final class PromiseTest {
         about(10, "no way, much, and few steps ahead of little weakness");
         CHECK.due("weak(0, 2)", parted.weak(0, 2), -2);
         CHECK.due("weak above 100", Tape.reader("pond 3 1;reed 1 0;reed 2 0;loss 50;thick 99;").weak(0, 2), 298);
+        CHECK.due("thick 0", Tape.reader("pond 3 1;reed 1 0;thick 0;loss 1;").weak(0, 2), 2);
         CHECK.due("not round the reeds", Tape.reader("pond 3 2;reed 1 0;").weak(0, 2), 50);
     }
 
@@ -646,7 +660,9 @@ public final class PromiseTest {
         CHECK.due("undo() of the 21st", much.undo(), NONE);
         CHECK.due("drops", much.count(5), 0);
         CHECK.due("reeds", much.count(12), 4);
-        CHECK.due("the latest cut is undone", much.cell(11, 0) * 10 + much.cell(7, 0), 10);
+        for (int cell = 0; cell < 12; cell++) {
+            CHECK.due("reeds in cell " + cell, much.cell(cell, 0), cell < 8 ? 0 : 1);
+        }
     }
 
     private static void noteAndStrike() {
@@ -675,12 +691,24 @@ public final class PromiseTest {
         CHECK.due("strike(4) again", x.strike(4), 6);
         CHECK.due("strike(5)", x.strike(5), 7);
         CHECK.due("fits(), one strike of 4 is left", x.fits(), 1);
-        for (int i = 8; i < 32; i++) {
+        CHECK.due("strike(2)", x.strike(2), 8);
+        CHECK.due("fits() with note 0 again", x.fits(), 0);
+        CHECK.due("strike(8)", x.strike(8), 9);
+        CHECK.due("fits() without it", x.fits(), 1);
+        for (int i = 10; i < 32; i++) {
             CHECK.due("strike " + i, x.strike(0), i);
         }
         CHECK.due("a 33rd", x.strike(0), NONE);
         about(22, "note");
         CHECK.due("a 33rd", x.note(0, 0, 0), NONE);
+        PondReader full = Tape.reader(ROW);
+        for (int i = 0; i < 31; i++) {
+            CHECK.due("note " + i, full.note(0, 0, 0), i);
+        }
+        CHECK.due("tales()", full.tales(), 2 * 5 * 21 - 2);
+        CHECK.due("note 31", full.note(0, 1, 10), 31);
+        CHECK.due("tales()", full.tales(), 3);
+        CHECK.due("fits()", full.fits(), 0);
     }
 
     private static void known() {
@@ -726,6 +754,8 @@ public final class PromiseTest {
             }
         }
         CHECK.due("tale(4, 0)", x.tale(4, 0), -2);
+        CHECK.due("tale(4, 3)", x.tale(4, 3), NONE);
+        CHECK.due("tale(4, -1)", x.tale(4, -1), NONE);
         CHECK.due("tale(-1, 0)", x.tale(-1, 0), NONE);
         CHECK.due("tale(0, 3)", x.tale(0, 3), NONE);
         CHECK.due("tale(0, -1)", x.tale(0, -1), NONE);
@@ -794,9 +824,12 @@ public final class PromiseTest {
         PondReader two = Tape.reader("pond 3 3;loss 0;kind a 5;cork o 2 2;cork p 1 0;cork q 0 1;cork r 0 0;");
         CHECK.due("two corks", two.apart(1, 3, 0x060200), 3);
         CHECK.due("not by all", Tape.reader(ROW).apart(1, 2, 0x0301), -2);
+        CHECK.due("not by all, with a third", Tape.reader(ROW).apart(1, 3, 0x020301), -2);
         CHECK.due("kinds that are alike", Tape.reader(ROW + "kind too 10;").apart(5, 1, 0), -2);
         CHECK.due("no corks", Tape.reader("kind a 1;").apart(1, 2, 0x0100), -2);
         CHECK.due("no corks, one drop", Tape.reader("kind a 1;").apart(1, 1, 0), 0);
+        PondReader all = Tape.reader("pond 4 4;loss 1;kind a 50;kind b 51;kind c 52;kind d 53;cork o 0 0;cork p 3 0;");
+        CHECK.due("four kinds in six cells", all.apart(15, 6, 0x05040b03070fL), 3);
         StringBuilder maze = new StringBuilder("pond 8 6;loss 0;kind a 0 0 0 0 0 9;kind b 0 0 0 0 0 8;");
         for (int x1 = 0; x1 < 7; x1++) {
             maze.append("land " + x1 + " 1;land " + (x1 + 1) + " 3;");
