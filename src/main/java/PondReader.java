@@ -1813,7 +1813,8 @@ public final class PondReader {
             // A drop in the step of the arrival or later comes too late to change it.
             for (int step = 0; step <= LAST_LIE_DROP && step < reached; step++) {
                 for (int from = 0; from < water.pond.cells(); from++) {
-                    if (water.pond.isWet(from) && isLie(kind, from, step, cell, n)) {
+                    int seen = firstSeen(from, step, reached);
+                    if (seen >= 0 && isLie(kind, from, step, seen, cell, n)) {
                         lieStep = step;
                         lieCell = from;
                         return 0;
@@ -1823,11 +1824,23 @@ public final class PondReader {
             return NOT_SO;
         }
 
-        // Up to the drop's step the skater goes as it does without, so its path is taken up there.
-        private boolean isLie(int kind, int from, int dropStep, int cell, int n) {
+        /** The first step ahead of the end in which a skater on the path can see a drop's ripple; NONE: it can't. */
+        private int firstSeen(int from, int dropStep, int end) {
+            for (int step = dropStep; step < end && step < path.length; step++) {
+                int far = step < 0 ? NOT_SO : ripples.farOf(from, path[step]);
+                // It looks one cell ahead, and no ripple comes sooner by a shore than directly.
+                if (far >= 0 && dropStep + far - 1 <= step) {
+                    return step;
+                }
+            }
+            return NONE;
+        }
+
+        // Until the drop's ripple is seen the skater goes as it does without, so its path is taken up there.
+        private boolean isLie(int kind, int from, int dropStep, int seen, int cell, int n) {
             ripples.pour(kind, from, dropStep, 1);
-            int here = dropStep >= 0 && dropStep < path.length ? path[dropStep] : cell;
-            for (int step = dropStep; step < n && here != cell; step++) {
+            int here = seen >= 0 && seen < path.length ? path[seen] : cell;
+            for (int step = seen; step < n && here != cell; step++) {
                 here = next(here, step);
             }
             ripples.pour(kind, from, dropStep, -1);
