@@ -807,7 +807,9 @@ public final class PondReader {
 
         // Behind the last token the end stays.
         void advance() {
-            at = Math.min(at + 1, size);
+            if (at < size) {
+                at++;
+            }
             boolean more = at >= 0 && at < size && at < types.length;
             type = more ? types[at] : END;
             place = more ? places[at] : length;
