@@ -156,6 +156,22 @@ public final class EdgesOfWaterTest {
         due("of the text ahead", x.drop(0, 0), NONE);
     }
 
+    // "DROPS, at most 8 (of a KIND, the STEP 0 .. 99)", "All numbered as they come": told ones ahead of those by call
+    private static void promise08NumberedAsTheyCome() {
+        StringBuilder text = new StringBuilder("pond 8 6;kind a 1;kind b 1;kind c 1;kind d 1;");
+        for (int i = 0; i < 8; i++) {
+            text.append("drop " + (char) ('d' - i % 4) + " " + (7 - i) + " " + i % 6 + " " + (99 - i * 14) + ";");
+        }
+        PondReader x = Tape.reader(text.toString());
+        due("the next one by call", x.fall(3, 47, 98), 8);
+        for (int i = 0; i < 8; i++) {
+            due("drop(" + i + ", 0)", x.drop(i, 0), 3 - i % 4);
+            due("drop(" + i + ", 1)", x.drop(i, 1), i % 6 * 8 + 7 - i);
+            due("drop(" + i + ", 2)", x.drop(i, 2), 99 - i * 14);
+        }
+        due("the one by call", x.drop(8, 0) * 10000 + x.drop(8, 1) * 100 + x.drop(8, 2), 34798);
+    }
+
     // "FAR", of a CELL and itself, over the whole pond, round land, not over the pond's edge
     private static void promise09FarAtTheEdges() {
         PondReader x = Tape.reader("pond 8 6;");
