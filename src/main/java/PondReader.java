@@ -1494,6 +1494,8 @@ public final class PondReader {
         private final int[] weaks = new int[MOST_CELLS * MOST_CELLS];
         private final int[] queue = new int[MOST_CELLS];
         private final int[] sums = new int[MOST_CELLS * STEPS];
+        private final Row poured = new Row(MOST_RISES);
+        private final Row sentBack = new Row(MOST_RISES);
 
         Ripples(Water water) {
             this.water = water;
@@ -1505,7 +1507,7 @@ public final class PondReader {
             }
             water.waysStale = false;
             layNeighbours();
-            for (int from = 0; from < MOST_CELLS; from++) {
+            for (int from = 0; from < water.pond.cells() && from < MOST_CELLS; from++) {
                 spread(from);
             }
         }
@@ -1516,7 +1518,7 @@ public final class PondReader {
                 return;
             }
             water.sumsStale = false;
-            for (int i = 0; i < sums.length; i++) {
+            for (int i = 0; i < water.pond.cells() * STEPS && i < sums.length; i++) {
                 sums[i] = 0;
             }
             Drops drops = water.drops;
@@ -1528,11 +1530,35 @@ public final class PondReader {
         /** Adds so many times what a drop makes rise to the sums: -1 takes it out again. */
         void pour(int kind, int from, int step, int times) {
             Row rises = water.pond.risesOf(kind);
+            Row shores = water.pond.shores;
+            poured.clear();
+            for (int k = 0; k < rises.size; k++) {
+                poured.add(rises.orZero(k) * times);
+            }
+            spreadRises(poured, from, step);
+            for (int i = 0; i < shores.size; i++) {
+                pourBy(shores.orZero(i), from, step);
+            }
+        }
+
+        // What a shore sends back goes on from there as a drop's rises do.
+        private void pourBy(int shore, int from, int step) {
+            int far = farOf(from, shore);
+            if (far < 0) {
+                return;
+            }
+            sentBack.clear();
+            for (int k = 0; k < poured.size; k++) {
+                sentBack.add(sentOf(poured.orZero(k), from, shore));
+            }
+            spreadRises(sentBack, shore, step + far);
+        }
+
+        private void spreadRises(Row rises, int from, int step) {
             for (int to = 0; to < water.pond.cells(); to++) {
-                for (int k = 0; k < rises.size; k++) {
-                    int rise = rises.orZero(k) * times;
-                    addDirect(rise, from, to, step + k);
-                    addSentBack(rise, from, to, step + k);
+                int far = farOf(from, to);
+                for (int k = 0; k < rises.size && far >= 0; k++) {
+                    addSum(to, step + far + k, partOf(rises.orZero(k), from, to));
                 }
             }
         }
@@ -1567,7 +1593,7 @@ public final class PondReader {
 
         // Cells come by how far they are, so those ahead of a cell are settled when it hands on its own weakness.
         private void spread(int from) {
-            for (int to = 0; to < MOST_CELLS; to++) {
+            for (int to = 0; to < water.pond.cells() && to < MOST_CELLS; to++) {
                 fars[from * MOST_CELLS + to] = NOT_SO;
                 weaks[from * MOST_CELLS + to] = NOT_SO;
             }
@@ -1620,8 +1646,9 @@ public final class PondReader {
             return left > 0 ? rise * left / 100 : 0;
         }
 
-        private int sentPart(int rise, int from, int shore, int to) {
-            return partOf(partOf(rise, from, shore) * water.pond.sent / 100, shore, to);
+        /** What a shore sends back of a rise. */
+        private int sentOf(int rise, int from, int shore) {
+            return partOf(rise, from, shore) * water.pond.sent / 100;
         }
 
         /** How far it is by a shore; NOT_SO if there is no way. */
@@ -1629,24 +1656,6 @@ public final class PondReader {
             int there = farOf(from, shore);
             int back = farOf(shore, to);
             return there < 0 || back < 0 ? NOT_SO : there + back;
-        }
-
-        private void addDirect(int rise, int from, int to, int step) {
-            int far = farOf(from, to);
-            if (far >= 0) {
-                addSum(to, step + far, partOf(rise, from, to));
-            }
-        }
-
-        private void addSentBack(int rise, int from, int to, int step) {
-            Row shores = water.pond.shores;
-            for (int i = 0; i < shores.size; i++) {
-                int shore = shores.orZero(i);
-                int far = farBy(from, shore, to);
-                if (far >= 0) {
-                    addSum(to, step + far, sentPart(rise, from, shore, to));
-                }
-            }
         }
 
         private void addSum(int cell, int step, int rise) {
@@ -1679,7 +1688,7 @@ public final class PondReader {
             for (int i = 0; i < shores.size; i++) {
                 int shore = shores.orZero(i);
                 far = farBy(from, shore, to);
-                rise += far < 0 ? 0 : sentPart(rises.orZero(later - far), from, shore, to);
+                rise += far < 0 ? 0 : partOf(sentOf(rises.orZero(later - far), from, shore), shore, to);
             }
             return rise;
         }

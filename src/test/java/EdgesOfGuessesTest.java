@@ -533,6 +533,15 @@ public final class EdgesOfGuessesTest {
         due("not without the first cell", late.apart(15, 5, 0x0504030201L), 1);
     }
 
+    // "RISE of a CELL in a STEP: .. directly and by each SHORE", of DROPS alone, too: 0 and 2 are as far from the cork
+    private static void promise29ByAShore() {
+        String text = "pond 3 1;loss 0;kind k 10;cork c 1 0;";
+        due("without", Tape.reader(text).apart(1, 2, 2 << 8), -2);
+        due("by a shore", Tape.reader(text + "shore 0 0;").apart(1, 2, 2 << 8), 1);
+        due("by one between them", Tape.reader(text + "shore 1 0;").apart(1, 2, 2 << 8), -2);
+        due("not by one that may be", Tape.reader(text + "may m shore 0 0;").apart(1, 2, 2 << 8), -2);
+    }
+
     // "in some STEP 0 .. 30"
     private static void promise29LastStep() {
         PondReader x = Tape.reader(maze() + "kind a 0 0 0 0 0 9;kind b 0 0 0 0 0 8;kind c 0 0 0 0 9;kind d 0 0 0 0 8;"
@@ -559,6 +568,28 @@ public final class EdgesOfGuessesTest {
         PondReader none = Tape.reader("land 0 0;kind a 1;");
         due("no corks: the first of the water", none.looks(0, 0, 9, 0), 1);
         due("no corks: the sum", none.looks(0, 0, 9, 1), 0);
+    }
+
+    // "of a KIND alone in STEP 0 the CELL .. nearest to another KIND's in a told CELL": the first KIND's CELL is sought, the
+    // other one's is told. 50 comes from cell 1 as 45 in step 1, which is what "0 45" in cell 0 shows.
+    private static void promise30TheFirstKindIsSought() {
+        PondReader x = Tape.reader("pond 3 1;kind a 0 45;kind b 50;cork c 0 0;");
+        due("b as a in 0", x.looks(1, 0, 0, 0), 1);
+        due("b as a in 0, the sum", x.looks(1, 0, 0, 1), 0);
+        due("a as b in 0", x.looks(0, 1, 0, 0), 2);
+        due("a as b in 0, the sum", x.looks(0, 1, 0, 1), 36 + 50);
+    }
+
+    // By a SHORE in 0 a drop in 0 shows 15 in step 1, one in 2 shows 10 in step 1 and 5 in step 3.
+    private static void promise30ByAShore() {
+        String text = "pond 3 1;loss 0;kind k 10;cork c 1 0;";
+        due("without, the cell", Tape.reader(text).looks(0, 0, 2, 0), 0);
+        PondReader x = Tape.reader(text + "kind j 15;shore 0 0;");
+        due("the cell", x.looks(0, 0, 2, 0), 2);
+        due("the sum", x.looks(0, 0, 2, 1), 0);
+        due("another kind: 22 in step 1 is as near as 15 and 7 later", x.looks(1, 0, 0, 0), 0);
+        due("another kind, the sum", x.looks(1, 0, 0, 1), 7);
+        due("not by one that may be", Tape.reader(text + "may m shore 0 0;").looks(0, 0, 2, 0), 0);
     }
 
     // "in STEPS 0 .. 30"
@@ -626,6 +657,20 @@ public final class EdgesOfGuessesTest {
         due("the last cell, too", wide.still(1, 0, 1, 47, 60), (1L << 48) - 1 - (1L << 39));
         due("but where it falls", wide.still(0, 47, 0, 47, 0), (1L << 47) - 1 - (1L << 39));
         due("one cell", Tape.reader("pond 1 1;kind k 0;").still(0, 0, 0, 0, 60), 1);
+    }
+
+    // Directly the two are even in cell 1 in step 1; by a SHORE in 0 one comes in step 1, the other in step 3.
+    private static void promise31ByAShore() {
+        String text = "pond 3 1;loss 0;kind up 10;kind down -10;";
+        PondReader without = Tape.reader(text + "may m shore 0 0;");
+        due("without", without.still(0, 0, 1, 2, 60), 2);
+        PondReader x = Tape.reader(text + "shore 0 0;");
+        due("step 0", x.still(0, 0, 1, 2, 0), 2);
+        due("by the first", x.still(0, 0, 1, 2, 1), 0);
+        due("by the other", x.still(1, 2, 0, 0, 1), 0);
+        due("the later one alone", x.still(1, 2, 1, 2, 0), 3);
+        PondReader both = Tape.reader(text + "shore 1 0;");
+        due("even by the shore, too", both.still(0, 0, 1, 2, 60), 2);
     }
 
     // "NONE: no such ones."
@@ -707,6 +752,19 @@ public final class EdgesOfGuessesTest {
         PondReader x = Tape.reader("pond 1 1;kind a 0;kind b 99 99 99 99 99 99;cork c 0 0;" + "drop b 0 0 5;".repeat(8));
         due("drops alone", x.chance(7, 0, 9, 0, 7), 0);
         due("they fell nowhere", x.count(5), 8);
+    }
+
+    // "n DROPS .. shows a RISE above 0": what they show together, not one of them
+    private static void promise32DropsAreAddedUp() {
+        chances("pond 1 1;kind a 1 -1;cork c 0 0;", 7, 9, 4, 5, 3, 2, 3, 3, 2, 1, 4, 2, 2, 2, 1, 1, 4, 3, 0, 0);
+        chances("pond 1 1;kind a 1 -99;cork c 0 0;", 7, 9, 4, 5, 1, 2, 3, 3, 2, 1, 4, 1, 2, 2, 1, 1, 3, 3, 0, 0);
+    }
+
+    // By a SHORE in 1 a drop in 0 comes back to 0 two steps later.
+    private static void promise32ByAShore() {
+        String text = "pond 2 1;loss 0;kind a 2;cork c 0 0;";
+        chances(text, 1, 3, 0, 0, 2, 1, 1, 1, 3, 1, 3, 3, 2, 1, 4, 0, 1, 3, 3, 0, 0, 0);
+        chances(text + "shore 1 0;", 1, 3, 0, 0, 2, 1, 3, 2, 4, 2, 6, 3, 2, 2, 4, 1, 2, 3, 4, 1, 0, 0);
     }
 
     // "in a STEP 0 .. 40": by a long way there is a RISE in the last one

@@ -116,6 +116,10 @@ public final class EdgesOfSkatersTest {
         worth("5 and 0", 0);
         worth("0 and 5", 0);
         worth("(0-5) and (0-7)", 1);
+        worth("(0-5) and 7", 1);
+        worth("7 and (0-5)", 1);
+        worth("(0-5) or 0", 1);
+        worth("0 or (0-5)", 1);
         worth("not 0", 1);
         worth("not 5", 0);
         worth("not (0-5)", 0);
@@ -415,6 +419,18 @@ public final class EdgesOfSkatersTest {
         lie(text, 1, 5, -2, -2);
         lie(text.replace("k 1", "k 1 1"), 1, 5, 2, 0);
         lie(text.replace("k 1", "k 1 1"), 1, 6, -2, -2);
+    }
+
+    // "isn't in a told CELL ahead of any of STEPS 0 .. n": to have left it again by then is no lie
+    private static void promise18PassingIsBeingThere() {
+        String text = "pond 4 1;loss 0;kind k 1;skater s 0 0;law (way=2)*2+(step>0)*(way=0)*rise*3;";
+        lie(text, 1, 1, -2, -2);
+        lie(text, 1, 3, -2, -2);
+        lie(text, 1, 60, -2, -2);
+        lie(text, 2, 2, 0, 0);
+        lie(text, 2, 3, -2, -2);
+        lie(text, 3, 3, 0, 0);
+        lie(text, 3, 60, -2, -2);
     }
 
     // STEPS behind n don't count, though the skater's way there has been asked for.

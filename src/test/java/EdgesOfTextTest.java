@@ -230,6 +230,32 @@ public final class EdgesOfTextTest {
         due("no skaters", x.where(0, 0), NONE);
     }
 
+    // What was worked out of a larger or smaller pond ahead is gone, too: all is as in a new object.
+    private static void promise03PondsOfAllSizes() {
+        String lines = "kind k 90 -80 7;shore 0 0;cork c 0 0;skater s 0 0;drop k 0 0 3;";
+        String[] ponds = {
+            "pond 8 6;reed 1 0;shore 7 5;land 3 3;", "pond 1 1;", "pond 8 1;shore 7 0;", "pond 1 6;reed 0 2;",
+            "pond 3 5;land 1 0;land 0 1;", "pond 8 6;", "pond 2 2;shore 1 1;", "", "pond 7 6;reed 6 5;loss 3;"
+        };
+        PondReader x = new PondReader();
+        for (String pond : ponds) {
+            Tape.tell(x, pond + lines);
+            PondReader fresh = Tape.reader(pond + lines);
+            int cells = fresh.count(0) * fresh.count(1);
+            for (int cell = -1; cell <= cells; cell++) {
+                String where = " " + cell + " of '" + pond + "'";
+                for (int to = -1; to <= cells; to++) {
+                    due("far to " + to + where, x.far(cell, to), fresh.far(cell, to));
+                    due("weak to " + to + where, x.weak(cell, to), fresh.weak(cell, to));
+                }
+                for (int step = 0; step < 200; step++) {
+                    due("rise in step " + step + where, x.rise(cell, step), fresh.rise(cell, step));
+                }
+                due("reaches" + where, x.reaches(0, cell), fresh.reaches(0, cell));
+            }
+        }
+    }
+
     private static int fitsOf(PondReader x, int cork, int step, int rise) {
         int number = x.note(cork, step, rise);
         int bits = x.fits();

@@ -352,6 +352,24 @@ public final class EdgesOfWaterTest {
         due("each part is cut", cut.rise(0, 7), -22);
     }
 
+    // "from the DROP's CELL to the SHORE's a part; sent of 100 of this, cut; from there on a part of this again": 20, then
+    // 18 (of 94), 10 (of 60), 9 (of 97); in any other order, or cut only once, it is 10
+    private static void promise11CutThreeTimesInThisOrder() {
+        String text = "pond 4 1;loss 3;sent 60;kind up 20;kind down -20;shore 2 0;cork c 1 0;";
+        for (int kind = 0; kind < 2; kind++) {
+            PondReader x = Tape.reader(text);
+            int sign = kind == 0 ? 1 : -1;
+            x.fall(kind, 0, 0);
+            due("directly", x.rise(1, 1), sign * 19);
+            due("at the shore", x.rise(2, 2), sign * (18 + 10));
+            due("from there on", x.rise(1, 3), sign * 9);
+            due("and the other way", x.rise(3, 3), sign * (18 + 9));
+            due("note", x.note(0, 3, sign * 9), 0);
+            due("so with all drops", x.fits(), 1);
+            due("so of one alone", x.tale(0, 0) * 100 + x.tale(0, 1) * 10 + x.tale(0, 2), kind * 100);
+        }
+    }
+
     // "By each SHORE": three of them, and none where there is no way
     private static void promise11ByThreeShores() {
         PondReader x = Tape.reader("pond 4 1;loss 0;kind k 10;shore 1 0;shore 2 0;shore 3 0;drop k 0 0 0;");
